@@ -690,10 +690,11 @@ public final class ReadBarrierMachine {
         int make(int head) {
             int size = sizeIn(head);
             scanCells(pace * size);
-            if (!full && size > freeCells()) {
-                flipOrFill();
-                full = full || size > freeCells();
+            // With cells of the row still to scan, old objects may be needed yet: no flip.
+            if (!full && size > freeCells() && scanned == rowEnd) {
+                flip();
             }
+            full = full || size > freeCells();
             if (full) {
                 return NONE;
             }
@@ -769,12 +770,7 @@ public final class ReadBarrierMachine {
             }
         }
 
-        /** With cells of the row still to scan, old objects may be needed yet: no flip. */
-        private void flipOrFill() {
-            if (scanned < rowEnd) {
-                full = true;
-                return;
-            }
+        private void flip() {
             useSpace(base == 0 ? limit : 0);
             flipCount++;
             current = moveOld(current);

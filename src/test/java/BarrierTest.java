@@ -1,7 +1,6 @@
 /**
  * What is read, scanned and moved, instruction by instruction, and how room runs out in the
- * middle of each. The kinds are 0 (size 1), 1 (one ref, one int: size 3), 2 (three and three:
- * size 7).
+ * middle of each. Objects of the kinds 0, 1 and 2 of Lines.machine have the sizes 1, 3 and 7.
  */
 public final class BarrierTest {
     private static final Checks CHECKS = new Checks();
@@ -47,14 +46,6 @@ public final class BarrierTest {
         CHECKS.due(call, got, want);
     }
 
-    private static ReadBarrierMachine machine(int cells, int pace) {
-        ReadBarrierMachine x = new ReadBarrierMachine(cells, pace);
-        x.kind(-1, 0, 0);
-        x.kind(-1, 1, 1);
-        x.kind(-1, 3, 3);
-        return x;
-    }
-
     private static void room(ReadBarrierMachine x, int used, int grey, int work) {
         due("used()", x.used(), used);
         due("grey()", x.grey(), grey);
@@ -63,7 +54,7 @@ public final class BarrierTest {
 
     /** A machine of 24 cells, stopped behind OLD_REGISTERS and before the line. */
     private static ReadBarrierMachine before(int... line) {
-        ReadBarrierMachine x = machine(24, 1);
+        ReadBarrierMachine x = Lines.machine(24, 1);
         int m = Lines.method(x, -1, Lines.joined(OLD_REGISTERS, line, Lines.jump(0)));
         x.start(m, 0);
         x.run(7);
@@ -117,7 +108,7 @@ public final class BarrierTest {
         moves("STORE, no such int", 3, Lines.store(0, 1, 1));
         moves("CALL, no method", 3, Lines.call(0, 1, 0));
         CHECKS.about("PUT into NONE reads no more");
-        ReadBarrierMachine x = machine(24, 1);
+        ReadBarrierMachine x = Lines.machine(24, 1);
         int m = Lines.method(x, -1, Lines.joined(OLD_REGISTERS, Lines.clear(2), Lines.put(2, 1, 0), Lines.jump(0)));
         x.start(m, 0);
         x.run(8);
@@ -127,7 +118,7 @@ public final class BarrierTest {
 
     private static void readingTwiceMovesOnce() {
         CHECKS.about("reading twice");
-        ReadBarrierMachine x = machine(24, 1);
+        ReadBarrierMachine x = Lines.machine(24, 1);
         int m = Lines.method(x, -1, Lines.joined(OLD_REGISTERS, Lines.copy(2, 1), Lines.copy(0, 1),
                 Lines.ifVoid(1, 0), Lines.put(1, 0, 0), Lines.jump(11)));
         x.start(m, 0);
@@ -137,7 +128,7 @@ public final class BarrierTest {
         due("kindAt(1, 0)", x.kindAt(1, 0), 1);
         due("live()", x.live(), 12);
         CHECKS.about("moved through another ref");
-        x = machine(24, 1);
+        x = Lines.machine(24, 1);
         m = Lines.method(x, -1, Lines.joined(OLD_REGISTERS, Lines.get(2, 0, 0), Lines.ifVoid(1, 0),
                 Lines.store(1, 0, 0), Lines.load(1, 2, 0), Lines.jump(11)));
         x.start(m, 66);
@@ -158,7 +149,7 @@ public final class BarrierTest {
     }
 
     private static ReadBarrierMachine calling(int cells, int pace, int receiver, int argument) {
-        ReadBarrierMachine x = machine(cells, pace);
+        ReadBarrierMachine x = Lines.machine(cells, pace);
         int callee = Lines.method(x, -1, Lines.giveBack(1, 0));
         x.bind(receiver, 1, callee);
         int m = Lines.method(x, -1, Lines.make(0, receiver), Lines.make(1, argument), Lines.call(0, 1, 1),
@@ -190,7 +181,7 @@ public final class BarrierTest {
 
     private static void callScansBeforeItReads() {
         CHECKS.about("CALL that scans");
-        ReadBarrierMachine x = machine(33, 1);
+        ReadBarrierMachine x = Lines.machine(33, 1);
         x.bind(1, 0, Lines.method(x, -1, Lines.giveBack(0, 0)));
         int m = Lines.method(x, -1, Lines.make(0, 1), Lines.make(1, 2), Lines.make(2, 2), Lines.make(2, 2),
                 Lines.make(2, 0), Lines.call(0, 1, 0), Lines.giveBack(0, 0));
@@ -234,7 +225,7 @@ public final class BarrierTest {
 
     /** A callee that makes n objects of kind 1 in R1 and then has the last line. */
     private static ReadBarrierMachine inCallee(int cells, int receiver, int n, int... last) {
-        ReadBarrierMachine x = machine(cells, 1);
+        ReadBarrierMachine x = Lines.machine(cells, 1);
         int[][] lines = new int[0][];
         for (int i = 0; i < n; i++) {
             lines = Lines.joined(lines, Lines.make(1, 1));
@@ -267,7 +258,7 @@ public final class BarrierTest {
 
     private static void scanRunsOutAtLink() {
         CHECKS.about("no room for LINK in the middle of a scan");
-        ReadBarrierMachine x = machine(26, 1);
+        ReadBarrierMachine x = Lines.machine(26, 1);
         x.bind(2, 0, Lines.method(x, -1, Lines.make(1, 1), Lines.make(1, 1), Lines.make(1, 1), Lines.make(1, 1),
                 Lines.giveBack(0, 0)));
         int m = Lines.method(x, -1, Lines.make(0, 2), Lines.call(0, 0, 0), Lines.giveBack(0, 2));
@@ -283,7 +274,7 @@ public final class BarrierTest {
         due("the step counts", x.run(9), 1);
         due("state()", x.state(), 3);
         room(x, 22, 11, 2);
-        x = machine(25, 1);
+        x = Lines.machine(25, 1);
         x.bind(0, 0, Lines.method(x, -1, Lines.make(1, 2), Lines.make(1, 2), Lines.giveBack(1, 0)));
         m = Lines.method(x, -1, Lines.make(0, 0), Lines.call(0, 0, 0), Lines.giveBack(0, 2));
         x.start(m, 5);
@@ -298,7 +289,7 @@ public final class BarrierTest {
 
     private static void returnRunsOutAtAnswer() {
         CHECKS.about("RETURN, no room for the answer");
-        ReadBarrierMachine x = machine(24, 1);
+        ReadBarrierMachine x = Lines.machine(24, 1);
         int m = Lines.method(x, -1, Lines.make(0, 2), Lines.make(1, 2), Lines.make(2, 0), Lines.make(2, 1),
                 Lines.copy(2, 0), Lines.giveBack(1, 0));
         x.start(m, 5);
@@ -314,7 +305,7 @@ public final class BarrierTest {
 
     private static void returnRunsOutAtLink() {
         CHECKS.about("RETURN, no room for LINK");
-        ReadBarrierMachine x = machine(26, 1);
+        ReadBarrierMachine x = Lines.machine(26, 1);
         x.bind(0, 0, Lines.method(x, -1, Lines.make(1, 2), Lines.make(1, 2), Lines.make(1, 0), Lines.make(1, 0),
                 Lines.copy(2, 0), Lines.giveBack(2, 0)));
         int m = Lines.method(x, -1, Lines.make(0, 0), Lines.call(0, 0, 0), Lines.giveBack(0, 2));
@@ -353,7 +344,7 @@ public final class BarrierTest {
 
     private static void exceptionRunsOutAtLink() {
         CHECKS.about("an exception, no room for LINK");
-        ReadBarrierMachine x = machine(26, 1);
+        ReadBarrierMachine x = Lines.machine(26, 1);
         x.bind(0, 0, Lines.method(x, -1, Lines.make(1, 2), Lines.make(1, 2), Lines.make(1, 0), Lines.make(1, 0),
                 Lines.raise(0)));
         int m = Lines.method(x, -1, Lines.make(0, 0), Lines.call(0, 0, 0), Lines.giveBack(0, 2));
@@ -369,7 +360,7 @@ public final class BarrierTest {
 
     /** R0 and R1 are old with 7 cells each, in a room of 24 cells of which 19 are used then. */
     private static ReadBarrierMachine crowded(int... line) {
-        ReadBarrierMachine x = machine(24, 1);
+        ReadBarrierMachine x = Lines.machine(24, 1);
         int m = Lines.method(x, -1, Lines.make(0, 2), Lines.make(1, 2), Lines.put(0, 1, 0), Lines.put(1, 0, 0),
                 Lines.make(2, 0), Lines.make(2, 1), Lines.ifVoid(0, 0), line, Lines.jump(9), Lines.giveBack(0, 0));
         x.start(m, 1);
@@ -409,7 +400,7 @@ public final class BarrierTest {
 
     private static void scanRunsOut() {
         CHECKS.about("no room in the middle of a scan");
-        ReadBarrierMachine x = machine(24, 1);
+        ReadBarrierMachine x = Lines.machine(24, 1);
         int m = Lines.method(x, -1, Lines.make(0, 2), Lines.make(1, 2), Lines.make(2, 0), Lines.make(2, 1),
                 Lines.make(2, 2), Lines.jump(0));
         x.start(m, 0);
@@ -426,7 +417,7 @@ public final class BarrierTest {
 
     private static void rowDoneInTime() {
         CHECKS.about("the row is done just in time");
-        ReadBarrierMachine x = machine(24, 1);
+        ReadBarrierMachine x = Lines.machine(24, 1);
         int small = Lines.method(x, -1, Lines.make(0, 0), Lines.jump(0));
         int m = Lines.method(x, -1, Lines.make(0, 2), Lines.make(0, 2), Lines.make(0, 2), Lines.make(0, 2),
                 Lines.make(0, 2), Lines.jump(0));
@@ -442,7 +433,7 @@ public final class BarrierTest {
         due("all goes well with small ones", x.run(200), 200);
         due("state()", x.state(), 0);
         CHECKS.about("the row is done by its last cell");
-        x = machine(24, 1);
+        x = Lines.machine(24, 1);
         m = Lines.method(x, -1, Lines.make(0, 2), Lines.make(0, 2), Lines.make(0, 2), Lines.make(1, 2),
                 Lines.make(1, 0), Lines.make(1, 0), Lines.jump(5));
         x.start(m, 0);
@@ -457,7 +448,7 @@ public final class BarrierTest {
 
     private static void rowNotDone() {
         CHECKS.about("the row is not done when room ends");
-        ReadBarrierMachine x = machine(24, 1);
+        ReadBarrierMachine x = Lines.machine(24, 1);
         int m = Lines.method(x, -1, Lines.make(0, 2), Lines.make(1, 2), Lines.make(2, 2), Lines.copy(2, 0),
                 Lines.clear(1), Lines.make(1, 0), Lines.make(1, 0), Lines.jump(6));
         x.start(m, 0);
@@ -476,7 +467,7 @@ public final class BarrierTest {
 
     private static void scanGoesByCells() {
         CHECKS.about("cells in their order");
-        ReadBarrierMachine x = machine(40, 1);
+        ReadBarrierMachine x = Lines.machine(40, 1);
         int m = Lines.method(x, -1, Lines.make(0, 1), Lines.make(1, 1), Lines.make(2, 2), Lines.make(2, 2),
                 Lines.make(2, 2), Lines.make(2, 2), Lines.make(2, 0), Lines.jump(6));
         x.start(m, 0);
@@ -495,7 +486,7 @@ public final class BarrierTest {
 
     private static void scanFollowsTheRow() {
         CHECKS.about("a chain in one scan");
-        ReadBarrierMachine x = machine(24, 8);
+        ReadBarrierMachine x = Lines.machine(24, 8);
         int m = Lines.method(x, -1, Lines.make(0, 1), Lines.make(1, 1), Lines.put(1, 0, 0), Lines.make(0, 1),
                 Lines.put(0, 1, 0), Lines.clear(1), Lines.make(2, 1), Lines.make(2, 1), Lines.make(2, 1),
                 Lines.make(2, 1), Lines.giveBack(0, 0));
@@ -513,7 +504,7 @@ public final class BarrierTest {
 
     private static void garbageIsLeftBehind() {
         CHECKS.about("room is got back for ever");
-        ReadBarrierMachine x = machine(40, 2);
+        ReadBarrierMachine x = Lines.machine(40, 2);
         int m = Lines.method(x, -1, Lines.constant(1, 1), Lines.make(0, 1), Lines.make(1, 1), Lines.put(0, 1, 0),
                 Lines.add(0, 0, 1), Lines.store(1, 0, 0), Lines.get(2, 0, 0), Lines.load(2, 2, 0), Lines.show(2),
                 Lines.jump(1));
@@ -531,7 +522,7 @@ public final class BarrierTest {
 
     private static void sharedObjectsStayShared() {
         CHECKS.about("one object by two refs, through flips");
-        ReadBarrierMachine x = machine(30, 3);
+        ReadBarrierMachine x = Lines.machine(30, 3);
         int m = Lines.method(x, -1, Lines.make(0, 1), Lines.copy(1, 0), Lines.put(0, 1, 0), Lines.make(2, 1),
                 Lines.store(0, 0, 0), Lines.load(1, 1, 0), Lines.show(1), Lines.get(2, 1, 0), Lines.load(2, 2, 0),
                 Lines.show(2), Lines.add(0, 0, 0), Lines.jump(3));

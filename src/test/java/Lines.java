@@ -1,4 +1,4 @@
-/** Instructions by their names, and methods written out of them. */
+/** Instructions by their names, methods written out of them, and a machine to write them for. */
 final class Lines {
     private static final int NOT_NAMED = 77;
 
@@ -67,6 +67,15 @@ final class Lines {
 
     static int[] show(int x) {
         return new int[] {15, x, NOT_NAMED, NOT_NAMED};
+    }
+
+    /** A machine with the kinds 0 (no ref, no int), 1 (one ref, one int) and 2 (three and three). */
+    static ReadBarrierMachine machine(int cells, int pace) {
+        ReadBarrierMachine x = new ReadBarrierMachine(cells, pace);
+        x.kind(-1, 0, 0);
+        x.kind(-1, 1, 1);
+        x.kind(-1, 3, 3);
+        return x;
     }
 
     /** The number of the finished method; a refusal on the way is a fault of the test. */

@@ -57,18 +57,9 @@ public final class PromisesTest {
         CHECKS.due(call, got, want);
     }
 
-    /** A machine with the kinds 0 (no ref, no int), 1 (one ref, one int) and 2 (three and three). */
-    private static ReadBarrierMachine machine(int cells, int pace) {
-        ReadBarrierMachine x = new ReadBarrierMachine(cells, pace);
-        x.kind(-1, 0, 0);
-        x.kind(-1, 1, 1);
-        x.kind(-1, 3, 3);
-        return x;
-    }
-
     /** A started machine whose only method has these lines. */
     private static ReadBarrierMachine started(int value, int[]... lines) {
-        ReadBarrierMachine x = machine(120, 1);
+        ReadBarrierMachine x = Lines.machine(120, 1);
         x.start(Lines.method(x, -1, lines), value);
         return x;
     }
@@ -107,7 +98,7 @@ public final class PromisesTest {
         int[] given = {LOW, -1, 0, 23, 24, 25, 77, 119, 120, 121, HIGH};
         int[] due = {24, 24, 24, 24, 24, 25, 77, 119, 120, 120, 120};
         for (int i = 0; i < given.length; i++) {
-            ReadBarrierMachine x = machine(given[i], 1);
+            ReadBarrierMachine x = Lines.machine(given[i], 1);
             x.start(Lines.method(x, -1, Lines.make(0, 0), Lines.jump(0)), 0);
             for (int made = 9; made < due[i]; made++) {
                 x.run(2);
@@ -125,7 +116,7 @@ public final class PromisesTest {
         int[] given = {LOW, 0, 1, 2, 5, 7, 8, 9, HIGH};
         int[] due = {1, 1, 1, 2, 5, 7, 8, 8, 8};
         for (int i = 0; i < given.length; i++) {
-            ReadBarrierMachine x = machine(24, given[i]);
+            ReadBarrierMachine x = Lines.machine(24, given[i]);
             x.start(Lines.method(x, -1, Lines.make(0, 0), Lines.jump(0)), 0);
             x.run(2 * 16);
             due("grey() at the flip of " + given[i], x.grey(), 9);
@@ -234,7 +225,7 @@ public final class PromisesTest {
 
     private static void bindRefusals() {
         CHECKS.about("promise 3");
-        ReadBarrierMachine x = machine(120, 1);
+        ReadBarrierMachine x = Lines.machine(120, 1);
         due("no method yet", x.bind(0, 0, 0), false);
         int first = showing(x, 101);
         due("bind(0, 0, 0)", x.bind(0, 0, first), true);
@@ -263,7 +254,7 @@ public final class PromisesTest {
 
     private static void bindWhileRunning() {
         CHECKS.about("promise 3, while it runs");
-        ReadBarrierMachine x = machine(120, 1);
+        ReadBarrierMachine x = Lines.machine(120, 1);
         int first = showing(x, 101);
         int second = showing(x, 102);
         int caller = Lines.method(x, -1, Lines.make(0, 1), Lines.call(0, 0, 2), Lines.call(0, 0, 2),
@@ -343,7 +334,7 @@ public final class PromisesTest {
         CHECKS.about("promise 5, operands");
         int[] zValues = {-1, 3, 3, -1, -1, 3, 3, 3, 3, 12, 12, 12, 4, -1, -1, -1};
         int[] tried = {LOW, -2, -1, 0, 1, 2, 3, 4, 11, 12, 13, HIGH};
-        ReadBarrierMachine x = machine(50, 1);
+        ReadBarrierMachine x = Lines.machine(50, 1);
         for (int op = 0; op <= 15; op++) {
             boolean hasX = op != 9;
             boolean hasY = op == 1 || op == 3 || (op >= 5 && op <= 8) || op == 12 || op == 13;
@@ -382,7 +373,7 @@ public final class PromisesTest {
 
     private static void sealRefusals() {
         CHECKS.about("promise 6");
-        ReadBarrierMachine x = machine(50, 1);
+        ReadBarrierMachine x = Lines.machine(50, 1);
         due("none is open", x.seal(), false);
         x.method(-1);
         due("no instruction", x.seal(), false);
@@ -417,7 +408,7 @@ public final class PromisesTest {
                 }
             }
         }
-        ReadBarrierMachine x = machine(50, 1);
+        ReadBarrierMachine x = Lines.machine(50, 1);
         x.method(-1);
         x.code(0, 0, 0, 12);
         x.code(2, 0, 99, 2);
@@ -430,7 +421,7 @@ public final class PromisesTest {
 
     /** Whether a method of that length is taken with one jump in the middle to the place. */
     private static boolean sealsWith(int op, int place, int length) {
-        ReadBarrierMachine x = machine(50, 1);
+        ReadBarrierMachine x = Lines.machine(50, 1);
         x.method(-1);
         for (int i = 0; i < length - 1; i++) {
             x.code(op, 0, 0, i == length / 2 - 1 ? place : 0);
@@ -440,7 +431,7 @@ public final class PromisesTest {
     }
 
     private static void sealWithHandler(int handler) {
-        ReadBarrierMachine x = machine(50, 1);
+        ReadBarrierMachine x = Lines.machine(50, 1);
         x.method(handler);
         for (int length = 1; length <= handler; length++) {
             x.code(14, 0, 0, 0);
@@ -452,7 +443,7 @@ public final class PromisesTest {
 
     private static void dropGivesUp() {
         CHECKS.about("promise 7");
-        ReadBarrierMachine x = machine(50, 1);
+        ReadBarrierMachine x = Lines.machine(50, 1);
         due("none is open", x.drop(), false);
         due("method", x.method(5), 0);
         x.code(0, 0, 0, 55);
@@ -479,7 +470,7 @@ public final class PromisesTest {
 
     private static void startAnew() {
         CHECKS.about("promise 8");
-        ReadBarrierMachine x = machine(24, 1);
+        ReadBarrierMachine x = Lines.machine(24, 1);
         int m = Lines.method(x, -1, Lines.make(0, 2), Lines.make(1, 2), Lines.make(2, 1),
                 Lines.constant(0, 5), Lines.constant(1, 6), Lines.constant(2, 7), Lines.show(1),
                 Lines.raise(1));
@@ -520,7 +511,7 @@ public final class PromisesTest {
 
     private static void startRefusals() {
         CHECKS.about("promise 8, refusals");
-        ReadBarrierMachine x = machine(50, 1);
+        ReadBarrierMachine x = Lines.machine(50, 1);
         int m = Lines.method(x, -1, Lines.make(0, 1), Lines.show(0), Lines.constant(1, 8), Lines.jump(1));
         x.method(-1);
         x.code(13, 0, 0, 0);
@@ -541,7 +532,7 @@ public final class PromisesTest {
 
     private static void runCounts() {
         CHECKS.about("promise 9");
-        ReadBarrierMachine x = machine(50, 1);
+        ReadBarrierMachine x = Lines.machine(50, 1);
         due("nothing started", x.run(5), 0);
         due("refused all the same", x.run(201), -1);
         int m = Lines.method(x, -1, Lines.constant(1, 1), Lines.add(0, 0, 1), Lines.jump(1));
@@ -569,7 +560,7 @@ public final class PromisesTest {
 
     private static void stateEnds() {
         CHECKS.about("promise 10");
-        ReadBarrierMachine x = machine(24, 1);
+        ReadBarrierMachine x = Lines.machine(24, 1);
         due("nothing started", x.state(), 4);
         int back = Lines.method(x, -1, Lines.constant(1, 9), Lines.giveBack(0, 1));
         due("written, not started", x.state(), 4);
@@ -599,7 +590,7 @@ public final class PromisesTest {
 
     private static void resultValues() {
         CHECKS.about("promise 11");
-        ReadBarrierMachine x = machine(24, 1);
+        ReadBarrierMachine x = Lines.machine(24, 1);
         int back = Lines.method(x, -1, Lines.constant(1, LOW), Lines.giveBack(0, 1));
         int thrown = Lines.method(x, -1, Lines.constant(2, HIGH), Lines.raise(2));
         int none = Lines.method(x, -1, Lines.constant(0, 0), Lines.raise(0));
@@ -652,7 +643,7 @@ public final class PromisesTest {
 
     private static void workOfRuns() {
         CHECKS.about("promise 13");
-        ReadBarrierMachine x = machine(24, 2);
+        ReadBarrierMachine x = Lines.machine(24, 2);
         int m = Lines.method(x, -1, Lines.make(0, 1), Lines.jump(0));
         due("nothing started", x.work(), 0);
         x.run(5);
@@ -691,7 +682,7 @@ public final class PromisesTest {
 
     private static void usedCells() {
         CHECKS.about("promise 14");
-        ReadBarrierMachine x = machine(40, 1);
+        ReadBarrierMachine x = Lines.machine(40, 1);
         due("nothing started", x.used(), 0);
         int m = Lines.method(x, -1, Lines.make(0, 0), Lines.make(0, 1), Lines.make(0, 2), Lines.clear(0),
                 Lines.make(1, 2), Lines.make(1, 2), Lines.make(1, 0), Lines.make(1, 1), Lines.make(1, 2),
@@ -709,7 +700,7 @@ public final class PromisesTest {
 
     private static void greyCells() {
         CHECKS.about("promise 15");
-        ReadBarrierMachine x = machine(24, 1);
+        ReadBarrierMachine x = Lines.machine(24, 1);
         int m = Lines.method(x, -1, Lines.make(0, 2), Lines.make(1, 2), Lines.make(2, 0), Lines.clear(1),
                 Lines.make(1, 0), Lines.copy(2, 0), Lines.make(1, 0), Lines.make(1, 1), Lines.make(1, 0),
                 Lines.make(1, 0), Lines.make(1, 0), Lines.jump(10));
@@ -735,7 +726,7 @@ public final class PromisesTest {
 
     private static void flipCounts() {
         CHECKS.about("promise 16");
-        ReadBarrierMachine x = machine(24, 8);
+        ReadBarrierMachine x = Lines.machine(24, 8);
         due("nothing started", x.flips(), 0);
         int m = Lines.method(x, -1, Lines.make(0, 1), Lines.jump(0));
         x.start(m, 0);
@@ -750,7 +741,7 @@ public final class PromisesTest {
 
     private static void depthOfCalls() {
         CHECKS.about("promise 17");
-        ReadBarrierMachine x = machine(120, 1);
+        ReadBarrierMachine x = Lines.machine(120, 1);
         due("nothing started", x.depth(), 0);
         int m = Lines.method(x, -1, Lines.constant(1, -1), Lines.ifZero(0, 5), Lines.add(0, 0, 1),
                 Lines.make(0, 0), Lines.call(0, 0, 0), Lines.giveBack(0, 0));
@@ -772,7 +763,7 @@ public final class PromisesTest {
 
     private static void liveCells() {
         CHECKS.about("promise 18");
-        ReadBarrierMachine x = machine(60, 1);
+        ReadBarrierMachine x = Lines.machine(60, 1);
         due("nothing started", x.live(), 0);
         int m = Lines.method(x, -1, Lines.make(0, 2), Lines.make(1, 1), Lines.put(0, 1, 0),
                 Lines.put(0, 1, 2), Lines.put(1, 0, 0), Lines.copy(2, 1), Lines.clear(1), Lines.clear(0),
@@ -792,7 +783,7 @@ public final class PromisesTest {
 
     private static void liveOldOnes() {
         CHECKS.about("promise 18, old ones");
-        ReadBarrierMachine x = machine(24, 1);
+        ReadBarrierMachine x = Lines.machine(24, 1);
         int m = Lines.method(x, -1, Lines.make(0, 2), Lines.make(1, 2), Lines.put(0, 1, 1),
                 Lines.make(2, 1), Lines.clear(1), Lines.jump(5));
         x.start(m, 0);
@@ -808,7 +799,7 @@ public final class PromisesTest {
 
     private static void kindAtAnswers() {
         CHECKS.about("promise 19");
-        ReadBarrierMachine x = machine(24, 1);
+        ReadBarrierMachine x = Lines.machine(24, 1);
         due("nothing started", x.kindAt(0, -1), -1);
         int m = Lines.method(x, -1, Lines.make(0, 2), Lines.make(1, 1), Lines.put(0, 1, 2),
                 Lines.put(1, 0, 0), Lines.make(2, 0), Lines.make(2, 0), Lines.make(2, 0), Lines.make(2, 0),
@@ -844,7 +835,7 @@ public final class PromisesTest {
 
     private static void numberAnswers() {
         CHECKS.about("promise 20");
-        ReadBarrierMachine x = machine(50, 1);
+        ReadBarrierMachine x = Lines.machine(50, 1);
         due("nothing started", x.number(0), 0);
         due("nothing started", x.number(3), 0);
         int m = Lines.method(x, -1, Lines.constant(1, 21), Lines.constant(2, 22), Lines.jump(5),
@@ -925,7 +916,7 @@ public final class PromisesTest {
 
     private static void instructionsThatCall() {
         CHECKS.about("instructions 12, 13");
-        ReadBarrierMachine x = machine(120, 1);
+        ReadBarrierMachine x = Lines.machine(120, 1);
         int callee = Lines.method(x, -1, Lines.make(2, 0), Lines.constant(1, 61), Lines.constant(0, 60),
                 Lines.giveBack(2, 1));
         int m = Lines.method(x, -1, Lines.make(0, 1), Lines.make(1, 2), Lines.make(2, 2), Lines.constant(1, 51),
@@ -978,7 +969,7 @@ public final class PromisesTest {
 
     /** The line stands where R0 and R1 hold objects of kind 1 and R2 holds NONE. */
     private static void exceptionOf(int[] line, int due) {
-        ReadBarrierMachine x = machine(120, 1);
+        ReadBarrierMachine x = Lines.machine(120, 1);
         String name = "instruction " + line[0] + " on ref or int " + line[3];
         x.start(Lines.method(x, 5, Lines.make(0, 1), Lines.make(1, 1), Lines.constant(1, 9), line,
                 Lines.jump(0), Lines.show(2), Lines.giveBack(0, 2)), 8);
@@ -1001,7 +992,7 @@ public final class PromisesTest {
 
     private static void exceptionsThroughFrames() {
         CHECKS.about("exceptions and frames");
-        ReadBarrierMachine x = machine(120, 1);
+        ReadBarrierMachine x = Lines.machine(120, 1);
         int inner = Lines.method(x, -1, Lines.constant(0, 77), Lines.raise(0));
         int middle = Lines.method(x, -1, Lines.call(0, 0, 0), Lines.giveBack(0, 0));
         int outer = Lines.method(x, 3, Lines.make(0, 0), Lines.call(0, 0, 1), Lines.giveBack(0, 0),
