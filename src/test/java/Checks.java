@@ -11,6 +11,11 @@ final class Checks {
         about = text;
     }
 
+    /** The same, with the words of the document that they rest on. */
+    void sentence(String where, String words) {
+        about(where + ", \"" + words + "\"");
+    }
+
     void due(String call, int got, int want) {
         asked++;
         if (got == want) {
@@ -27,7 +32,24 @@ final class Checks {
     }
 
     void due(String call, String got, String want) {
-        due(call + " (" + got + ", due is " + want + ")", got.equals(want), true);
+        if (got.equals(want)) {
+            due(call, true, true);
+            return;
+        }
+        int from = Math.max(0, sharedStart(got, want) - 20);
+        due(call + " (" + some(got, from) + ", due is " + some(want, from) + ")", false, true);
+    }
+
+    private static int sharedStart(String one, String other) {
+        int i = 0;
+        while (i < one.length() && i < other.length() && one.charAt(i) == other.charAt(i)) {
+            i++;
+        }
+        return i;
+    }
+
+    private static String some(String text, int from) {
+        return text.substring(from, Math.min(text.length(), from + 60));
     }
 
     int wrong() {

@@ -78,6 +78,15 @@ final class Lines {
         return x;
     }
 
+    /** A machine whose kinds 0, 1, .. have objects of these sizes (1 to 7), with refs from 2 on. */
+    static ReadBarrierMachine sized(int cells, int pace, int... sizes) {
+        ReadBarrierMachine x = new ReadBarrierMachine(cells, pace);
+        for (int size : sizes) {
+            x.kind(-1, size / 2, size - 1 - size / 2);
+        }
+        return x;
+    }
+
     /** The number of the finished method; a refusal on the way is a fault of the test. */
     static int method(ReadBarrierMachine machine, int handler, int[]... lines) {
         int m = machine.method(handler);
@@ -90,6 +99,13 @@ final class Lines {
             throw new IllegalStateException("the test's own method was refused");
         }
         return m;
+    }
+
+    /** A machine as above, started with a method of these lines, which has no handler. */
+    static ReadBarrierMachine started(int cells, int pace, int value, int[]... lines) {
+        ReadBarrierMachine x = machine(cells, pace);
+        x.start(method(x, -1, lines), value);
+        return x;
     }
 
     static int[][] joined(int[][] first, int[]... then) {
