@@ -38,6 +38,7 @@ public final class BarrierTest {
         scanFollowsTheRow();
         roomIsGotBack();
         sharedObjectsStayShared();
+        callersStayThroughFlips();
         CHECKS.end();
     }
 
@@ -191,7 +192,7 @@ public final class BarrierTest {
     }
 
     private static void readingMovesOldOnesAlone() {
-        CHECKS.sentence("terms", "READING a ref: if it holds an old object, that is moved (once)");
+        CHECKS.sentence("terms", "READING a ref .. if it holds an old object, that is moved (once)");
         ReadBarrierMachine x = before(Lines.joined(OLD_REGISTERS, Lines.copy(2, 1), Lines.copy(0, 1),
                 Lines.ifVoid(1, 0), Lines.put(1, 0, 0), Lines.jump(11)));
         x.run(1);
@@ -200,7 +201,7 @@ public final class BarrierTest {
         room(x, 15, 12, 0);
         due("kindAt(1, 0)", x.kindAt(1, 0), 1);
         due("live()", x.live(), 12);
-        CHECKS.sentence("terms", "READING a ref: if it holds an old object, that is moved (by another ref before)");
+        CHECKS.sentence("terms", "READING a ref .. if it holds an old object, that is moved (by another ref before)");
         x = before(Lines.joined(OLD_REGISTERS, Lines.get(2, 0, 0), Lines.ifVoid(1, 0), Lines.store(1, 0, 0),
                 Lines.load(1, 2, 0), Lines.jump(11)));
         x.run(1);
@@ -248,7 +249,8 @@ public final class BarrierTest {
     }
 
     private static void callScansBeforeItReads() {
-        CHECKS.sentence("terms", "CALL Rx; then, if there is no exception and the frame was made, Rx and Ry (found by the scan)");
+        CHECKS.sentence("terms", "CALL Rx; then, if there is no exception and the frame was made, Rx and Ry "
+                + "(found by the scan)");
         ReadBarrierMachine x = Lines.machine(33, 1);
         x.bind(1, 0, Lines.method(x, -1, Lines.giveBack(0, 0)));
         int m = Lines.method(x, -1, Lines.make(0, 1), Lines.make(1, 2), Lines.make(2, 2), Lines.make(2, 2),
@@ -264,24 +266,36 @@ public final class BarrierTest {
         due("flips()", x.flips(), 1);
     }
 
-    private static void callReadsBeforeItScans() {
-        CHECKS.sentence("terms", "CALL Rx (before the making scans)");
-        // R1 holds an object of 2 cells and that another one, R2 one of 3 cells and that another one.
+    /**
+     * R1 holds an object of 2 cells and that another one, R2 one of 3 cells and that another one;
+     * a flip made them old and left a new one in R0. Then the call, whose callee makes one-cell
+     * objects: each scans a cell.
+     */
+    private static ReadBarrierMachine callInRow(int... call) {
         ReadBarrierMachine x = Lines.sized(36, 1, 2, 3, 1, 7);
-        x.bind(1, 0, Lines.method(x, -1, Lines.make(2, 2), Lines.jump(0)));
+        int callee = Lines.method(x, -1, Lines.make(2, 2), Lines.jump(0));
+        x.bind(1, 0, callee);
+        x.bind(3, 0, callee);
         x.start(Lines.method(x, -1, Lines.make(0, 0), Lines.make(1, 0), Lines.put(1, 0, 0), Lines.make(0, 1),
                 Lines.make(2, 1), Lines.put(2, 0, 0), Lines.make(0, 3), Lines.make(0, 3), Lines.make(0, 3),
-                Lines.call(2, 0, 0), Lines.giveBack(0, 0)), 0);
+                call, Lines.giveBack(0, 0)), 0);
         x.run(9);
         room(x, 16, 9, 9);
         x.run(1);
-        // R2's object is read, then the frame's nine cells are scanned, which finds R1's.
         room(x, 30, 5, 9 + 3 + 2);
         x.run(1);
         room(x, 31, 4, 1);
         x.run(2);
-        // The ref of R2's object, which stands before R1's in the row.
-        room(x, 35, 6, 1 + 3);
+        return x;
+    }
+
+    private static void callReadsBeforeItScans() {
+        CHECKS.sentence("terms", "CALL Rx (before the making scans)");
+        // Rx is R2, so that its object comes into the row first; its ref is the second cell scanned.
+        room(callInRow(Lines.call(2, 0, 0)), 35, 6, 1 + 3);
+        CHECKS.sentence("terms", "then, if .. the frame was made, Rx and Ry (Ry not before the making)");
+        // Ry is R2: the making scans R1 first, so that R1's object comes into the row first.
+        room(callInRow(Lines.call(0, 2, 0)), 34, 5, 1 + 2);
     }
 
     /** In a room of 40 cells: a callee that makes objects of kind 1 in R1 up to a flip. */
@@ -393,5 +407,31 @@ public final class BarrierTest {
             value += value;
         }
         due("flips", x.flips() > 5 ? 1 : 0, 1);
+    }
+
+    private static void callersStayThroughFlips() {
+        CHECKS.sentence("terms", "frames of calls are objects like others (moved in the caller, then in the callee)");
+        for (int cells = 25; cells <= 32; cells++) {
+            ReadBarrierMachine x = Lines.machine(cells, 8);
+            int[][] makings = new int[8][];
+            java.util.Arrays.fill(makings, Lines.make(1, 0));
+            x.bind(1, 0, Lines.method(x, -1, Lines.joined(makings, Lines.add(0, 0, 0), Lines.load(2, 0, 0),
+                    Lines.add(2, 2, 0), Lines.giveBack(0, 2))));
+            x.start(Lines.method(x, -1, Lines.make(0, 1), Lines.store(0, 0, 0), Lines.make(2, 0), Lines.make(2, 0),
+                    Lines.call(0, 1, 0), Lines.jump(2)), 7);
+            x.run(2);
+            for (int round = 0; round < 60; round++) {
+                x.run(3);
+                due("depth() in the call", x.depth(), 2);
+                x.run(8 + 4);
+                due("depth() behind it", x.depth(), 1);
+                due("PLACE of the caller", x.number(3), 5);
+                due("I0 of the caller", x.number(0), 7);
+                due("I2 of the caller", x.number(2), 21);
+                x.run(1);
+            }
+            due("state()", x.state(), 0);
+            due("many flips", x.flips() > 50 ? 1 : 0, 1);
+        }
     }
 }

@@ -11,7 +11,10 @@ final class Checks {
         about = text;
     }
 
-    /** The same, with the words of the document that they rest on. */
+    /**
+     * The same, with the words of the document that they rest on: ".." stands for words that are
+     * left out, and what stands in round brackets at the end may be the test's own.
+     */
     void sentence(String where, String words) {
         about(where + ", \"" + words + "\"");
     }

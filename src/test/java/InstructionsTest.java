@@ -88,7 +88,7 @@ public final class InstructionsTest {
     }
 
     private static void newIsEmpty() {
-        CHECKS.sentence("NEW", "an object of kind z is made, its refs NONE, its ints 0; Rx becomes it");
+        CHECKS.sentence("NEW", "an object of kind z .. is made, its refs NONE, its ints 0; Rx becomes it");
         ReadBarrierMachine x = started(9, Lines.make(0, 1), Lines.make(1, 2), Lines.make(2, 0), Lines.giveBack(0, 0));
         for (int r = 0; r <= 2; r++) {
             due("before it in R" + r, x.kindAt(r, -1), -1);
@@ -228,7 +228,8 @@ public final class InstructionsTest {
     }
 
     private static void callSelectors() {
-        CHECKS.sentence("CALL", "selector z (0 .. 3) on the object in Rx: a frame of the method that the table .. has for z");
+        CHECKS.sentence("CALL", "selector z (0 .. 3) on the object in Rx: a frame of the method that "
+                + "the table of the object's kind has for z is made");
         for (int selector = 0; selector <= 3; selector++) {
             due("selector " + selector, answerOfSelector(selector), 40 + selector);
         }
@@ -308,7 +309,8 @@ public final class InstructionsTest {
     }
 
     private static void returnWithLink() {
-        CHECKS.sentence("RETURN", "Else the frame in LINK becomes the current one; its R2 becomes what Rx was, its I2 what Iy was");
+        CHECKS.sentence("RETURN", "Else the frame in LINK becomes the current one; its R2 becomes what Rx was, "
+                + "its I2 what Iy was");
         int[] kinds = {1, -1, 0};
         for (int r = 0; r <= 2; r++) {
             for (int y = 0; y <= 2; y++) {
@@ -383,8 +385,8 @@ public final class InstructionsTest {
     }
 
     private static void stepHandler() {
-        CHECKS.sentence("a step", "if the current frame's method has a handler, PLACE becomes that, I2 becomes the exception, "
-                + "and none is pending any more");
+        CHECKS.sentence("a step", "if the current frame's method has a handler, PLACE becomes that, "
+                + "I2 becomes the exception, and none is pending any more");
         for (int handler = 0; handler <= 11; handler++) {
             int[][] lines = new int[12][];
             java.util.Arrays.fill(lines, Lines.show(2));

@@ -66,8 +66,8 @@ public final class RoomTest {
     }
 
     private static void movedIfItGoesIn() {
-        CHECKS.sentence("terms", "if USED and its size together are at most H; if they are not, the machine ends OUT OF ROOM "
-                + "at once, in the middle of what it does, and nothing more is done");
+        CHECKS.sentence("terms", "if USED and its size together are at most H; if they are not, the machine ends "
+                + "OUT OF ROOM at once, in the middle of what it does, and nothing more is done");
         int[][] lines = {
             Lines.copy(2, 1), Lines.get(2, 1, 0), Lines.get(2, 0, 0), Lines.get(2, 1, 2), Lines.put(1, 2, 1),
             Lines.put(0, 1, 1), Lines.put(1, 0, 2), Lines.load(1, 1, 0), Lines.load(1, 1, 2), Lines.store(1, 1, 0),
@@ -132,7 +132,8 @@ public final class RoomTest {
     }
 
     private static void movedIfItGoesInByCallArgument() {
-        CHECKS.sentence("terms", "CALL Rx; then, if there is no exception and the frame was made, Rx and Ry (no room for Ry)");
+        CHECKS.sentence("terms", "CALL Rx; then, if there is no exception and the frame was made, Rx and Ry "
+                + "(no room for Ry)");
         ReadBarrierMachine x = calling(2, 4, 1);
         room("4 cells go in", x, 24, 15, 15);
         due("state()", x.state(), NOT_ENDED);
@@ -216,7 +217,8 @@ public final class RoomTest {
     }
 
     private static void movedIfItGoesInByScan() {
-        CHECKS.sentence("terms", "if it is a ref that holds an old object, that is moved (into the last cell, or one too much)");
+        CHECKS.sentence("terms", "if it is a ref that holds an old object, that is moved "
+                + "(into the last cell, or one too much)");
         for (int cells = 5; cells <= 6; cells++) {
             ReadBarrierMachine x = Lines.sized(24, 8, 5, 3, cells);
             x.start(Lines.method(x, -1, Lines.make(0, 0), Lines.make(1, 0), Lines.make(2, 1), Lines.make(2, 2),
@@ -374,8 +376,9 @@ public final class RoomTest {
         for (int pace = 1; pace <= 2; pace++) {
             ReadBarrierMachine x = Lines.sized(30, pace, 1, 7);
             x.bind(0, 0, Lines.method(x, -1, Lines.giveBack(0, 0)));
-            x.start(Lines.method(x, -1, Lines.make(1, 1), Lines.constant(1, -1), Lines.make(0, 0), Lines.add(0, 0, 1),
-                    Lines.ifZero(0, 6), Lines.jump(2), Lines.call(0, 2, 0), Lines.giveBack(0, 0)), 15);
+            x.start(Lines.method(x, -1, Lines.make(1, 1), Lines.constant(1, -1), Lines.make(0, 0),
+                    Lines.add(0, 0, 1), Lines.ifZero(0, 6), Lines.jump(2), Lines.call(0, 2, 0),
+                    Lines.giveBack(0, 0)), 15);
             x.run(61);
             room("at the flip", x, 10, 9, 9);
             x.run(1);
@@ -421,7 +424,8 @@ public final class RoomTest {
     }
 
     private static void rowDoneOrNot() {
-        CHECKS.sentence("terms", "if the row is not done, the machine ends out of room. If it is done, there is a FLIP");
+        CHECKS.sentence("terms", "if the row is not done, the machine ends out of room. "
+                + "If it is done, there is a FLIP");
         // R0 holds an object of 5 or 6 cells: the row has 14 or 15. Two makings scan 7 cells each.
         for (int cells = 5; cells <= 6; cells++) {
             ReadBarrierMachine x = Lines.sized(24, 1, cells, 7, 1);
@@ -430,7 +434,8 @@ public final class RoomTest {
                 lines = Lines.joined(lines, Lines.make(2, 2));
             }
             int before = lines.length;
-            x.start(Lines.method(x, -1, Lines.joined(lines, Lines.make(1, 1), Lines.make(2, 1), Lines.giveBack(0, 0))), 3);
+            lines = Lines.joined(lines, Lines.make(1, 1), Lines.make(2, 1), Lines.giveBack(0, 0));
+            x.start(Lines.method(x, -1, lines), 3);
             x.run(before);
             room("at the flip", x, 10, 9, 9);
             x.run(1);
@@ -452,7 +457,8 @@ public final class RoomTest {
     }
 
     private static void flipMakesNewOnesOld() {
-        CHECKS.sentence("terms", "all new and moved objects become old, the row is empty, and the current frame is moved");
+        CHECKS.sentence("terms", "all new and moved objects become old .. the row is empty, "
+                + "and the current frame is moved");
         ReadBarrierMachine x = Lines.sized(24, 8, 3, 1);
         x.start(Lines.method(x, -1, Lines.make(0, 0), Lines.make(2, 1), Lines.ifVoid(0, 0), Lines.jump(1)), 0);
         x.run(1);

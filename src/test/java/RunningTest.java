@@ -80,8 +80,8 @@ public final class RunningTest {
     }
 
     private static void startAnew() {
-        CHECKS.sentence("promise 8", "no objects but a new frame of method m .. its refs NONE, I0 value, I1, I2 and PLACE 0; "
-                + ".. nothing shown, RESULT 0, no flips, work 0");
+        CHECKS.sentence("promise 8", "no objects but a new frame of method m .. its refs NONE, I0 value, "
+                + "I1, I2 and PLACE 0; .. nothing shown, RESULT 0, no flips, work 0");
         ReadBarrierMachine x = Lines.machine(24, 1);
         int m = Lines.method(x, -1, Lines.make(0, 2), Lines.make(1, 2), Lines.make(2, 1),
                 Lines.constant(0, 5), Lines.constant(1, 6), Lines.constant(2, 7), Lines.show(1), Lines.raise(1));
@@ -237,7 +237,8 @@ public final class RunningTest {
     }
 
     private static void stateOfEnds() {
-        CHECKS.sentence("promise 10", "0 if the machine has not ended, 1 if it ended by RETURN, 2 uncaught, 3 out of room");
+        CHECKS.sentence("promise 10", "0 if the machine has not ended, 1 if it ended by RETURN, 2 uncaught, "
+                + "3 out of room");
         ReadBarrierMachine[] machines = {returning(5), throwing(5), filling(5)};
         int[] before = {1, 2, 12};
         int[] ends = {BY_RETURN, UNCAUGHT, OUT_OF_ROOM};
@@ -560,7 +561,8 @@ public final class RunningTest {
     }
 
     private static void liveCells() {
-        CHECKS.sentence("promise 18", "The cells of all objects that can be reached from the current frame, itself included, by refs");
+        CHECKS.sentence("promise 18", "The cells of all objects that can be reached from the current frame, "
+                + "itself included, by refs");
         ReadBarrierMachine x = Lines.machine(60, 1);
         int m = Lines.method(x, -1, Lines.make(0, 2), Lines.make(1, 1), Lines.put(0, 1, 0),
                 Lines.put(0, 1, 2), Lines.put(1, 0, 0), Lines.copy(2, 1), Lines.clear(1), Lines.clear(0),

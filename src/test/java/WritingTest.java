@@ -674,15 +674,15 @@ public final class WritingTest {
     }
 
     private static void sealOtherNumbers() {
-        CHECKS.sentence("promise 6", "the z of one of its JUMP, ZERO or VOID (no other's)");
-        ReadBarrierMachine x = Lines.machine(50, 1);
-        x.method(-1);
-        x.code(0, 0, 99, 12);
-        x.code(2, 0, 99, 2);
-        x.code(12, 0, 0, 3);
-        x.code(15, 2, 11, 11);
-        x.code(RETURN, 0, 0, 99);
-        due("numbers that are no places", x.seal(), true);
+        CHECKS.sentence("promise 6", "the z of one of its JUMP, ZERO or VOID (of no other one)");
+        int[] greatest = {HIGH, 2, 2, HIGH, HIGH, 2, 2, 2, 2, 0, 0, 0, 3, HIGH, HIGH, HIGH};
+        for (int op = 0; op <= 15; op++) {
+            ReadBarrierMachine x = Lines.machine(50, 1);
+            x.method(-1);
+            due("instruction " + op, x.code(op, 2, 2, greatest[op]), 0);
+            due("RETURN", x.code(RETURN, 2, 2, HIGH), 0);
+            due("two lines, z " + greatest[op] + " of " + op, x.seal(), true);
+        }
     }
 
     private static void dropGivesUp() {
