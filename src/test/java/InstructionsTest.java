@@ -35,6 +35,9 @@ public final class InstructionsTest {
         stepUncaught();
         stepToTheCaller();
         placeIsOneMore();
+        placeIsOneMoreWithAnException();
+        exceptionIsPending();
+        frameHasNineCells();
         exceptionOnNone();
         exceptionOnNoneFirst();
         noneWhereItMayBe();
@@ -473,6 +476,57 @@ public final class InstructionsTest {
         }
         due("state()", x.state(), 1);
         due("PLACE at the end", x.number(3), 12);
+    }
+
+    private static void placeIsOneMoreWithAnException() {
+        CHECKS.sentence("terms", "PLACE is one more all the same");
+        int[][] wrong = {
+            Lines.get(0, 1, 0), Lines.put(1, 0, 0), Lines.load(0, 1, 0), Lines.store(1, 0, 0), Lines.call(1, 0, 0),
+            Lines.raise(0)
+        };
+        for (int[] line : wrong) {
+            for (int place = 0; place <= 10; place++) {
+                int[][] lines = new int[12][];
+                java.util.Arrays.fill(lines, Lines.show(0));
+                lines[place] = line;
+                lines[11] = Lines.giveBack(0, 0);
+                ReadBarrierMachine x = started(1, lines);
+                due("uncaught", x.run(200), place + 2);
+                due("PLACE of instruction " + line[0] + " at " + place, x.number(3), place + 1);
+            }
+        }
+    }
+
+    private static void exceptionIsPending() {
+        CHECKS.sentence("terms", "An exception that arises becomes the one pending");
+        // The callee's handler fails itself: its own exception is the one that it gets next.
+        ReadBarrierMachine x = Lines.machine(120, 1);
+        x.bind(0, 0, Lines.method(x, 1, Lines.raise(0), Lines.load(0, 0, 0), Lines.giveBack(0, 0)));
+        x.start(Lines.method(x, 3, Lines.make(0, 0), Lines.call(0, 0, 0), Lines.giveBack(0, 0),
+                Lines.giveBack(0, 2)), 9);
+        x.run(4);
+        due("I2 of the callee", x.number(2), 9);
+        x.run(2);
+        due("I2 with the handler's own exception", x.number(2), 2);
+        due("PLACE", x.number(3), 1);
+        due("depth()", x.depth(), 2);
+    }
+
+    private static void frameHasNineCells() {
+        CHECKS.sentence("terms", "its size is 9");
+        ReadBarrierMachine x = Lines.machine(120, 1);
+        x.bind(0, 0, Lines.method(x, -1, Lines.call(0, 0, 0), Lines.giveBack(0, 0)));
+        x.start(Lines.method(x, -1, Lines.make(0, 0), Lines.call(0, 0, 0), Lines.giveBack(0, 0)), 0);
+        due("used()", x.used(), 9);
+        x.run(1);
+        for (int frames = 1; frames <= 13; frames++) {
+            due("depth()", x.depth(), frames);
+            due("used() with " + frames, x.used(), 9 * frames + 1);
+            due("live() with " + frames, x.live(), 9 * frames + 1);
+            due("flips() with " + frames, x.flips(), 0);
+            x.run(1);
+        }
+        due("flips() with one more", x.flips(), 1);
     }
 
     /** The line stands where R0 and R1 hold objects of kind 1 and R2 holds NONE. */

@@ -25,6 +25,7 @@ public final class RoomTest {
         movedIfItGoesInByScanOfLink();
         nothingMoreIsDoneInAScan();
         movedIsTheLastOfTheRow();
+        movedHasNoCellScanned();
         scannedCellByCell();
         fewerIfTheRowIsDone();
         fewerIfTheRowIsDoneByCall();
@@ -36,6 +37,7 @@ public final class RoomTest {
         flipForgetsTheOldOnes();
         roomAfterAFlip();
         madeAsANewOne();
+        workOfAStep();
         CHECKS.end();
     }
 
@@ -322,6 +324,23 @@ public final class RoomTest {
         }
     }
 
+    private static void movedHasNoCellScanned() {
+        CHECKS.sentence("terms", "it becomes the last one of the row, none of its cells scanned");
+        for (int size = 2; size <= 6; size++) {
+            ReadBarrierMachine x = Lines.sized(24, 1, size, 7, 1);
+            x.start(Lines.method(x, -1, Lines.make(0, 0), Lines.make(2, 1), Lines.make(2, 1), Lines.ifVoid(0, 0),
+                    Lines.make(2, 2), Lines.make(2, 2), Lines.giveBack(0, 0)), 0);
+            x.run(3);
+            room("at the flip", x, 16, 9, 9);
+            x.run(1);
+            room("moved with " + size, x, 16 + size, 9 + size, size);
+            x.run(1);
+            room("the frame's head is scanned", x, 17 + size, 8 + size, 1);
+            x.run(1);
+            room("the frame's R0 is scanned", x, 18 + size, 7 + size, 1);
+        }
+    }
+
     private static void scannedCellByCell() {
         CHECKS.sentence("terms", "the first cell of the row that is not scanned is scanned from then on; "
                 + "if it is a ref that holds an old object, that is moved");
@@ -537,5 +556,27 @@ public final class RoomTest {
         room("reading it moves nothing", x, 16, 9, 0);
         x.run(1);
         room("a cell of the frame is scanned", x, 17, 8, 1);
+    }
+
+    private static void workOfAStep() {
+        CHECKS.sentence("terms", "WORK of a step: the cells that were scanned in it, "
+                + "and the sizes of the objects that were moved in it.");
+        // R0 holds an object of 2 cells, and that another one; R1 holds one of 3 cells.
+        ReadBarrierMachine x = Lines.sized(24, 2, 2, 3, 1, 7);
+        x.start(Lines.method(x, -1, Lines.make(0, 0), Lines.make(1, 0), Lines.put(0, 1, 0), Lines.make(1, 1),
+                Lines.make(2, 3), Lines.make(2, 2), Lines.make(2, 2), Lines.get(2, 0, 0), Lines.make(2, 2),
+                Lines.make(2, 2), Lines.show(0), Lines.giveBack(0, 0)), 0);
+        x.run(6);
+        room("makings without a row", x, 24, 0, 0);
+        x.run(1);
+        room("a flip: the frame is moved", x, 10, 9, 9);
+        x.run(1);
+        room("GET: two are moved", x, 14, 13, 4);
+        x.run(1);
+        room("a making: two cells are scanned", x, 15, 11, 2);
+        x.run(1);
+        room("a making: two cells are scanned, one object is moved", x, 19, 12, 5);
+        x.run(1);
+        room("SHOW", x, 19, 12, 0);
     }
 }
