@@ -528,19 +528,34 @@ public final class RoomTest {
         }
     }
 
+    /** A frame of 9 cells and what is made, at most 9 more, go into every room: the least has 24. */
     private static void roomAfterAFlip() {
         CHECKS.sentence("terms", "Then, if USED + s is still above H, the machine ends out of room. "
-                + "(the least room has 24 cells, and what is greatest goes in)");
-        ReadBarrierMachine x = Lines.sized(24, 1, 1, 7);
-        x.start(madeThen(x, Lines.make(0, 1)), 15);
+                + "(the least room has 24 cells, and a frame has 9)");
+        int[] asked = {Integer.MIN_VALUE, 0, 9, 17, 18, 23, 24};
+        for (int cells : asked) {
+            for (int size = 1; size <= 7; size++) {
+                ReadBarrierMachine x = Lines.sized(cells, 1, 1, size);
+                afterAFlip("an object of " + size + " in " + cells, x, Lines.make(0, 1), size);
+                due("kindAt(0, -1)", x.kindAt(0, -1), 1);
+            }
+            ReadBarrierMachine x = Lines.sized(cells, 1, 1);
+            x.bind(0, 0, Lines.method(x, -1, Lines.giveBack(0, 0)));
+            // R0's object, of 1 cell, is read once the frame is made.
+            afterAFlip("a frame in " + cells, x, Lines.call(0, 0, 0), 9 + 1);
+            due("depth()", x.depth(), 2);
+        }
+    }
+
+    private static void afterAFlip(String name, ReadBarrierMachine x, int[] line, int cellsBesideTheFrame) {
+        x.start(madeThen(x, line), 15);
         runUpToTheLine(x, 15);
-        due("full", x.used(), 24);
-        x.run(1);
-        room("the greatest object", x, 16, 9, 9);
-        due("state()", x.state(), NOT_ENDED);
-        x = calling(6, 1, 0);
-        due("the greatest frame", x.used(), 9 + 9 + 6);
-        due("state()", x.state(), NOT_ENDED);
+        due(name + ": full", x.used(), 24);
+        due(name + ": no flip yet", x.flips(), 0);
+        due(name + ": run(1)", x.run(1), 1);
+        due(name + ": flips()", x.flips(), 1);
+        due(name + ": state()", x.state(), NOT_ENDED);
+        due(name + ": used()", x.used(), 9 + cellsBesideTheFrame);
     }
 
     private static void madeAsANewOne() {
